@@ -1,0 +1,183 @@
+import java.util.ArrayList;
+import java.util.List;
+import java.util.Random;
+
+/** Random scripts, the same each time, worked by TrialStair and by the Oracle. */
+final class OracleTest extends TestBase {
+    private static final int STAIRS = 4000;
+    private static final int[] EDGES = {
+        0, 1, -1, 2, 3, 7, 8, 62, 63, 64, 65, 127, 128, 255, 256, 32767, 32768, 65535, 65536, 16777217, 16777219,
+        Integer.MAX_VALUE, Integer.MIN_VALUE, -128, -129, -32769
+    };
+
+    private final Random random;
+    private final TrialStair stair = new TrialStair();
+    private final Oracle oracle = new Oracle();
+    private final String name;
+    private int calls;
+
+    private OracleTest(int seed) {
+        this.random = new Random(seed);
+        this.name = "stair " + seed;
+    }
+
+    public static void main(String[] args) {
+        for (int seed = 0; seed < STAIRS; seed++) {
+            OracleTest test = new OracleTest(seed);
+            int scripts = 1 + test.random.nextInt(4);
+            for (int i = 0; i < scripts; i++) {
+                test.tryScript();
+            }
+        }
+        close();
+    }
+
+    private void tryScript() {
+        if (random.nextInt(4) != 0) {
+            due(name + ": wipe", stair.wipe(), oracle.wipe());
+        }
+        int routines = 1 + random.nextInt(4);
+        if (random.nextInt(10) == 0) {
+            addNoise(1 + random.nextInt(3), routines);
+        }
+        for (int r = 0; r < routines; r++) {
+            addStep(ROUTINE, random.nextInt(), random.nextInt(), random.nextInt() & ~1);
+            addPart(4 + random.nextInt(20), 0, routines);
+        }
+        int tries = 1 + random.nextInt(3);
+        for (int i = 0; i < tries; i++) {
+            int r = random.nextInt(routines + 1) - random.nextInt(2) * random.nextInt(2);
+            int n = random.nextInt(8) == 0 ? random.nextInt(1200) - 50 : 1 + random.nextInt(random.nextInt(6) == 0 ? 1000 : 120);
+            due(name + ": run(" + r + ", " + n + ")", stair.run(r, n), oracle.run(r, n));
+            compareAll();
+        }
+    }
+
+    private void addStep(int op, int a, int b, int c) {
+        calls++;
+        due(name + ": step", stair.step(op, a, b, c), oracle.step(op, a, b, c));
+    }
+
+    private void addNoise(int steps, int routines) {
+        for (int i = 0; i < steps; i++) {
+            addStep(random.nextInt(36), word(routines), word(routines), word(routines));
+        }
+    }
+
+    private int word(int routines) {
+        switch (random.nextInt(6)) {
+            case 0:
+                return EDGES[random.nextInt(EDGES.length)];
+            case 1:
+                return random.nextInt();
+            case 2:
+                return random.nextInt(routines + 1);
+            default:
+                return random.nextInt(8);
+        }
+    }
+
+    private void addPart(int steps, int level, int routines) {
+        for (int i = 0; i < steps; i++) {
+            int pick = random.nextInt(30);
+            if (pick < 6 && level < 6) {
+                addTrial(level, routines);
+            } else if (pick < 8 && level < 6) {
+                addStep(SET, 3, 1 + random.nextInt(4), 0);
+                addStep(LOOP, random.nextInt(8) == 0 ? word(routines) : 3, 0, 0);
+                addPart(random.nextInt(5), level + 1, routines);
+                addEnd(END);
+            } else if (pick < 10 && level < 6) {
+                addStep(IF, word(routines), word(routines), word(routines));
+                addPart(random.nextInt(4), level + 1, routines);
+                addEnd(END);
+            } else if (pick < 11) {
+                int[] ways = {BREAK, AGAIN, RETURN, THROW, INSTEAD, THROW_NOTHING};
+                addStep(ways[random.nextInt(ways.length)], word(routines), word(routines), word(routines));
+            } else if (pick < 13) {
+                addStep(SET, random.nextInt(8), word(routines), 0);
+            } else if (pick < 15) {
+                addStep(TELL, random.nextInt(8), 0, 0);
+            } else if (pick < 16) {
+                addStep(ROUTINE, random.nextInt(routines + 1), word(routines), 1);
+            } else if (pick < 17) {
+                addNoise(1, routines);
+            } else {
+                addStep(random.nextInt(WEIGH + 1), houseWord(), random.nextInt(8), random.nextInt(8));
+            }
+        }
+    }
+
+    /** Few sorts and shelves, so that rows are met again. */
+    private int houseWord() {
+        int sort = random.nextInt(3) == 0 ? THINGS : random.nextInt(8);
+        return sort << 3 | random.nextInt(2) | (random.nextInt(8) == 0 ? random.nextInt(8) : 0);
+    }
+
+    private void addEnd(int op) {
+        if (random.nextInt(12) != 0) {
+            addStep(op, word(4), word(4), word(4));
+        }
+    }
+
+    private void addTrial(int level, int routines) {
+        int[] bits = {ALL, ALL, 1, 2, 4, 8, 16, 32, 64, 128, 256, 512, random.nextInt(2048), random.nextInt(), 0};
+        addStep(OPEN, bits[random.nextInt(bits.length)], 0, 0);
+        addPart(random.nextInt(4), level + 1, routines);
+        if (random.nextInt(3) == 0) {
+            addStep(random.nextInt(3) == 0 ? THROW_NOTHING : THROW, random.nextInt(4), 0, 0);
+        }
+        if (random.nextInt(3) != 0) {
+            addStep(TAKER, 0, 0, 0);
+            addPart(random.nextInt(4), level + 1, routines);
+            if (random.nextInt(3) == 0) {
+                addStep(INSTEAD, random.nextInt(4), 0, 0);
+            }
+        }
+        if (random.nextInt(2) == 0) {
+            addStep(FINISH, 0, 0, 0);
+            addPart(random.nextInt(3), level + 1, routines);
+        }
+        addEnd(CLOSE);
+    }
+
+    private void compareAll() {
+        due(name + ": end", stair.end(), oracle.end());
+        due(name + ": result", stair.result(), oracle.result());
+        due(name + ": kind", stair.kind(), oracle.kind());
+        due(name + ": depth", stair.depth(), oracle.depth());
+        for (int i = -1; i <= 8; i++) {
+            due(name + ": status " + i, stair.status(i), oracle.status(i));
+            due(name + ": number " + i, stair.number(i), oracle.number(i));
+            due(name + ": hand " + i, stair.hand(i), oracle.hand(i));
+            due(name + ": mark " + i, stair.mark(i), oracle.mark(i));
+        }
+        for (int i = -1; i <= oracle.status(4); i++) {
+            due(name + ": out " + i, stair.out(i), oracle.out(i));
+        }
+        for (int i = -1; i <= oracle.status(5); i++) {
+            due(name + ": finished " + i, stair.finished(i), oracle.finished(i));
+        }
+        for (int i = -1; i <= oracle.status(6); i++) {
+            due(name + ": cause " + i, stair.cause(i), oracle.cause(i));
+        }
+        compareRows();
+        for (int i = -1; i <= 8; i++) {
+            for (int j = -1; j <= 8; j++) {
+                due(name + ": grid", stair.grid(i, j), oracle.grid(i, j));
+            }
+        }
+    }
+
+    private void compareRows() {
+        for (int sort = -1; sort <= 8; sort++) {
+            for (int shelf = -1; shelf <= 8; shelf++) {
+                int size = oracle.size(sort, shelf);
+                due(name + ": size", stair.size(sort, shelf), size);
+                for (int i = -1; i <= size; i++) {
+                    due(name + ": value", stair.value(sort, shelf, i), oracle.value(sort, shelf, i));
+                }
+            }
+        }
+    }
+}
