@@ -4,17 +4,23 @@ import java.util.Random;
 
 /** Random scripts, the same each time, worked by TrialStair and by the Oracle. */
 final class OracleTest extends TestBase {
-    private static final int STAIRS = 4000;
+    private static final int STAIRS = 8000;
     private static final int[] EDGES = {
         0, 1, -1, 2, 3, 7, 8, 62, 63, 64, 65, 127, 128, 255, 256, 32767, 32768, 65535, 65536, 16777217, 16777219,
         Integer.MAX_VALUE, Integer.MIN_VALUE, -128, -129, -32769
+    };
+
+    /** MAKE and GRID are rare, so that what PUT has put is there for a while. */
+    private static final int[] HOUSE_OPS = {
+        ADD, LESS, TIMES, TIMES, DIVIDE, REST, MAKE, LOOK, LOOK, LOOK, PUT, PUT, PUT, PUT, PUT, PUT, LENGTH,
+        GRID, GRID_LOOK, GRID_LOOK, GRID_PUT, GRID_PUT, GRID_PUT, THING, GIVE, MARK, MARK_PUT, CAST, CAST,
+        USE, USE, RING, RING, WEIGH
     };
 
     private final Random random;
     private final TrialStair stair = new TrialStair();
     private final Oracle oracle = new Oracle();
     private final String name;
-    private int calls;
 
     private OracleTest(int seed) {
         this.random = new Random(seed);
@@ -24,12 +30,30 @@ final class OracleTest extends TestBase {
     public static void main(String[] args) {
         for (int seed = 0; seed < STAIRS; seed++) {
             OracleTest test = new OracleTest(seed);
+            if (seed % 8 != 0) {
+                test.furnish();
+            }
             int scripts = 1 + test.random.nextInt(4);
             for (int i = 0; i < scripts; i++) {
                 test.tryScript();
             }
         }
         close();
+    }
+
+    /** Most HOUSES have something in them, so that fewer steps fail. */
+    private void furnish() {
+        addStep(ROUTINE, 0, 0, 0);
+        for (int i = 0; i < 8; i++) {
+            addStep(SET, i, random.nextInt(6), 0);
+            addStep(THING, i, random.nextInt(4), random.nextInt(8));
+        }
+        for (int i = 0; i < 16; i++) {
+            addStep(MAKE, i / 2 << 3 | i % 2, random.nextInt(8), random.nextInt(2));
+        }
+        addStep(GRID, random.nextInt(8), random.nextInt(8), 0);
+        due(name + ": furnished", stair.run(0, 100), oracle.run(0, 100));
+        compareAll();
     }
 
     private void tryScript() {
@@ -54,7 +78,6 @@ final class OracleTest extends TestBase {
     }
 
     private void addStep(int op, int a, int b, int c) {
-        calls++;
         due(name + ": step", stair.step(op, a, b, c), oracle.step(op, a, b, c));
     }
 
@@ -80,38 +103,59 @@ final class OracleTest extends TestBase {
     private void addPart(int steps, int level, int routines) {
         for (int i = 0; i < steps; i++) {
             int pick = random.nextInt(30);
-            if (pick < 6 && level < 6) {
+            if (pick < 3 && level < 6) {
                 addTrial(level, routines);
-            } else if (pick < 8 && level < 6) {
+            } else if (pick < 5 && level < 6) {
                 addStep(SET, 3, 1 + random.nextInt(4), 0);
                 addStep(LOOP, random.nextInt(8) == 0 ? word(routines) : 3, 0, 0);
                 addPart(random.nextInt(5), level + 1, routines);
                 addEnd(END);
-            } else if (pick < 10 && level < 6) {
+            } else if (pick < 7 && level < 6) {
                 addStep(IF, word(routines), word(routines), word(routines));
                 addPart(random.nextInt(4), level + 1, routines);
                 addEnd(END);
-            } else if (pick < 11) {
+            } else if (pick < 8) {
                 int[] ways = {BREAK, AGAIN, RETURN, THROW, INSTEAD, THROW_NOTHING};
                 addStep(ways[random.nextInt(ways.length)], word(routines), word(routines), word(routines));
-            } else if (pick < 13) {
+            } else if (pick < 9) {
                 addStep(SET, random.nextInt(8), word(routines), 0);
-            } else if (pick < 15) {
+            } else if (pick < 11) {
                 addStep(TELL, random.nextInt(8), 0, 0);
-            } else if (pick < 16) {
-                addStep(ROUTINE, random.nextInt(routines + 1), word(routines), 1);
-            } else if (pick < 17) {
-                addNoise(1, routines);
+            } else if (pick < 12) {
+                addStep(ROUTINE, random.nextInt(routines), word(routines), 1);
+            } else if (pick < 13) {
+                guard(random.nextInt(36), word(routines), word(routines), word(routines));
             } else {
-                addStep(random.nextInt(WEIGH + 1), houseWord(), random.nextInt(8), random.nextInt(8));
+                addHouseStep();
             }
+        }
+    }
+
+    private void addHouseStep() {
+        if (random.nextInt(2) == 0) {
+            addStep(SET, random.nextInt(8), random.nextInt(8) == 0 ? word(0) : random.nextInt(5), 0);
+        }
+        int op = HOUSE_OPS[random.nextInt(HOUSE_OPS.length)];
+        guard(op, op >= MAKE && op <= LENGTH ? houseWord() : random.nextInt(8), random.nextInt(8), random.nextInt(8));
+    }
+
+    /** Most steps stand in a trial of their own, so that a run does not fail too soon. */
+    private void guard(int op, int a, int b, int c) {
+        boolean guarded = random.nextInt(8) != 0;
+        if (guarded) {
+            addStep(OPEN, ALL, 0, 0);
+        }
+        addStep(op, a, b, c);
+        if (guarded) {
+            addStep(TAKER, 0, 0, 0);
+            addStep(CLOSE, 0, 0, 0);
         }
     }
 
     /** Few sorts and shelves, so that rows are met again. */
     private int houseWord() {
         int sort = random.nextInt(3) == 0 ? THINGS : random.nextInt(8);
-        return sort << 3 | random.nextInt(2) | (random.nextInt(8) == 0 ? random.nextInt(8) : 0);
+        return sort << 3 | random.nextInt(2) | (random.nextInt(12) == 0 ? random.nextInt(8) : 0);
     }
 
     private void addEnd(int op) {

@@ -22,6 +22,8 @@ final class RowTest extends TestBase {
         due("place -1", stair.value(LONGS, 3, -1), 0);
         due("place 2", stair.value(LONGS, 3, 2), 0);
         due("place most", stair.value(LONGS, 3, Integer.MAX_VALUE), 0);
+        due("a sort is not cut to three bits", stair.value(LONGS + 8, 3, 0), 0);
+        due("a shelf is not cut to three bits", stair.value(LONGS, 3 + 8, 0), 0);
         int[] no = {-1, 8, Integer.MIN_VALUE, Integer.MAX_VALUE};
         for (int i : no) {
             due("size of no sort", stair.size(i, 3), -2);
@@ -154,6 +156,8 @@ final class RowTest extends TestBase {
         due("it is the same THING", stair.mark(3), 0);
         again(stair, SET, 3, 2, 0, LOOK, 8 * THINGS, 3, 3);
         due("LOOK at nothing", stair.hand(3), -1);
+        again(stair, LOOK, 8 * THINGS, 0, 7 - 8);
+        due("LOOK into the last HAND", stair.hand(7), HAMMER);
         again(stair, PUT, 8 * THINGS, 0, 3);
         due("PUT of nothing", stair.value(THINGS, 0, 0), -1);
     }
