@@ -14,20 +14,20 @@ final class BlockTest extends TestBase {
     }
 
     private static void testLoop() {
-        TrialStair stair = ran(SET, 1, 3, 0, LOOP, 9, 0, 0, TELL, 1, 0, 0, END, 0, 0, 0, TELL, 1, 0, 0);
+        Stair stair = ran(SET, 1, 3, 0, LOOP, 9, 0, 0, TELL, 1, 0, 0, END, 0, 0, 0, TELL, 1, 0, 0);
         dueOutputs("counts down", stair, 2, 1, 0, 0);
         again(stair, SET, 1, -3, 0, LOOP, 1, 0, 0, TELL, 1, 0, 0, END, 0, 0, 0, TELL, 1, 0, 0);
         dueOutputs("below 0", stair, -3);
     }
 
     private static void testLoopNumberIsAlive() {
-        TrialStair stair = ran(SET, 1, 9, 0, SET, 2, 4, 0, LOOP, 1, 0, 0, LESS, 1, 1, 2, TELL, 1, 0, 0, END, 0, 0, 0,
+        Stair stair = ran(SET, 1, 9, 0, SET, 2, 4, 0, LOOP, 1, 0, 0, LESS, 1, 1, 2, TELL, 1, 0, 0, END, 0, 0, 0,
             TELL, 1, 0, 0);
         dueOutputs("changed inside", stair, 4, -1, -1);
     }
 
     private static void testLeavingLoops() {
-        TrialStair stair = ran(SET, 1, 2, 0, LOOP, 1, 0, 0, SET, 2, 2, 0, LOOP, 2, 0, 0, TELL, 2, 0, 0,
+        Stair stair = ran(SET, 1, 2, 0, LOOP, 1, 0, 0, SET, 2, 2, 0, LOOP, 2, 0, 0, TELL, 2, 0, 0,
             BREAK, 0, 0, 0, TELL, 7, 0, 0, END, 0, 0, 0, SET, 3, 9, 0, TELL, 3, 0, 0, END, 0, 0, 0);
         dueOutputs("BREAK leaves the inner one", stair, 1, 9, 1, 9);
         again(stair, SET, 1, 2, 0, LOOP, 1, 0, 0, TELL, 1, 0, 0, AGAIN, 0, 0, 0, TELL, 7, 0, 0, END, 0, 0, 0,
@@ -43,11 +43,11 @@ final class BlockTest extends TestBase {
         long[][] pairs = {{-1, 0, 1}, {0, 0, 0}, {1, 0, 0}, {Integer.MIN_VALUE, Integer.MAX_VALUE, 1},
             {Integer.MAX_VALUE, Integer.MIN_VALUE, 0}};
         for (long[] pair : pairs) {
-            TrialStair stair = ran(SET, 1, (int) pair[0], 0, SET, 2, (int) pair[1], 0, IF, 9, 10, 0, TELL, 3, 0, 0,
+            Stair stair = ran(SET, 1, (int) pair[0], 0, SET, 2, (int) pair[1], 0, IF, 9, 10, 0, TELL, 3, 0, 0,
                 END, 0, 0, 0);
             due("IF " + pair[0] + " < " + pair[1], stair.status(4), pair[2]);
         }
-        TrialStair stair = ran(SET, 2, 1, 0, IF, 1, 2, 0, RETURN, 2, 0, 0, END, 0, 0, 0, TELL, 3, 0, 0);
+        Stair stair = ran(SET, 2, 1, 0, IF, 1, 2, 0, RETURN, 2, 0, 0, END, 0, 0, 0, TELL, 3, 0, 0);
         dueEnd("what comes of its part comes of it", stair, BY_RETURN, 1);
         again(stair, SET, 2, 1, 0, IF, 1, 2, 0, THROW, 2, 0, 0, END, 0, 0, 0, TELL, 3, 0, 0);
         dueFailure("what comes of its part comes of it", stair, FLASH);
@@ -57,7 +57,7 @@ final class BlockTest extends TestBase {
     }
 
     private static void testInnermost() {
-        TrialStair stair = ran(SET, 1, 2, 0, LOOP, 1, 0, 0, CLOSE, 0, 0, 0, TELL, 1, 0, 0, END, 0, 0, 0,
+        Stair stair = ran(SET, 1, 2, 0, LOOP, 1, 0, 0, CLOSE, 0, 0, 0, TELL, 1, 0, 0, END, 0, 0, 0,
             SET, 2, 8, 0, TELL, 2, 0, 0);
         dueOutputs("a CLOSE ends no LOOP", stair, 1, 0, 8);
         again(stair, OPEN, ALL, 0, 0, END, 0, 0, 0, THROW, 0, 0, 0, TAKER, 0, 0, 0, TELL, 2, 0, 0, CLOSE, 0, 0, 0);
@@ -76,7 +76,7 @@ final class BlockTest extends TestBase {
     }
 
     private static void testRoutines() {
-        TrialStair stair = new TrialStair();
+        Stair stair = new Stair();
         add(stair, TELL, 7, 0, 0, OPEN, ALL, 0, 0, ROUTINE, 9, 9, 2, SET, 1, 1, 0, TELL, 1, 0, 0, LOOP, 1, 0, 0,
             ROUTINE, 0, 0, 0, END, 0, 0, 0, SET, 1, 2, 0, TELL, 1, 0, 0, ROUTINE, 0, 0, Integer.MIN_VALUE);
         due("routines", stair.status(1), 3);
@@ -91,7 +91,7 @@ final class BlockTest extends TestBase {
     }
 
     private static void testCallValue() {
-        TrialStair stair = new TrialStair();
+        Stair stair = new Stair();
         add(stair, ROUTINE, 0, 0, 0, SET, 2, 9, 0, SET, 3, 9, 0, SET, 4, 9, 0, ROUTINE, 1, 10, 1, ROUTINE, 2, 3, -1,
             ROUTINE, 3, 4, 3, TELL, 2, 0, 0, TELL, 3, 0, 0, TELL, 4, 0, 0,
             ROUTINE, 0, 0, 0, SET, 5, -6, 0, RETURN, 5, 0, 0, ROUTINE, 0, 0, 0, ROUTINE, 0, 0, 0, BREAK, 0, 0, 0);
@@ -106,7 +106,7 @@ final class BlockTest extends TestBase {
     }
 
     private static void testCallFails() {
-        TrialStair stair = new TrialStair();
+        Stair stair = new Stair();
         add(stair, ROUTINE, 0, 0, 0, SET, 1, 3, 0, OPEN, 64, 0, 0, ROUTINE, 2, 1, 1, TAKER, 0, 0, 0, TELL, 1, 0, 0,
             CLOSE, 0, 0, 0, ROUTINE, -1, 1, 1);
         stair.run(0, 99);
@@ -125,13 +125,13 @@ final class BlockTest extends TestBase {
     }
 
     private static void testLoopsOfOtherRoutines() {
-        TrialStair stair = new TrialStair();
+        Stair stair = new Stair();
         add(stair, ROUTINE, 0, 0, 0, SET, 1, 2, 0, LOOP, 1, 0, 0, ROUTINE, 1, 2, 1, TELL, 1, 0, 0, END, 0, 0, 0,
             ROUTINE, 0, 0, 0, BREAK, 0, 0, 0, TELL, 7, 0, 0);
         stair.run(0, 99);
         dueOutputs("a BREAK leaves no LOOP of the one that calls", stair, 1, 0);
         dueEnd("a BREAK leaves no LOOP of the one that calls", stair, PLAINLY, 0);
-        TrialStair behind = ran(SET, 1, 1, 0, LOOP, 1, 0, 0, END, 0, 0, 0, BREAK, 0, 0, 0, TELL, 1, 0, 0);
+        Stair behind = ran(SET, 1, 1, 0, LOOP, 1, 0, 0, END, 0, 0, 0, BREAK, 0, 0, 0, TELL, 1, 0, 0);
         dueEnd("a LOOP that is over is around no more", behind, BY_RETURN, 0);
     }
 }

@@ -19,13 +19,13 @@ final class FailureTest extends TestBase {
     };
 
     /** In this HOUSE each of the steps above fails with the kind that is its place. */
-    private static TrialStair stairThatFails() {
+    private static Stair stairThatFails() {
         return ran(SET, 2, 4, 0, MAKE, 8 * LONGS, 2, 0, MAKE, 8 * THINGS, 2, 1, SET, 1, -1, 0, THING, 1, HAMMER, 0);
     }
 
     private static void testKinds() {
         for (int kind = 0; kind < FAILING.length; kind++) {
-            TrialStair stair = stairThatFails();
+            Stair stair = stairThatFails();
             again(stair, FAILING[kind]);
             dueFailure("kind " + kind, stair, kind);
         }
@@ -39,7 +39,7 @@ final class FailureTest extends TestBase {
         for (int kind = 0; kind < FAILING.length; kind++) {
             int[] step = FAILING[kind];
             for (int bit = 0; bit < 32; bit++) {
-                TrialStair stair = stairThatFails();
+                Stair stair = stairThatFails();
                 int taken = takes(bit, kind) ? 1 : 0;
                 int took = again(stair, OPEN, 1 << bit, 0, 0, step[0], step[1], step[2], step[3], TAKER, 0, 0, 0,
                     TELL, 2, 0, 0, CLOSE, 0, 0, 0, TELL, 2, 0, 0);
@@ -55,7 +55,7 @@ final class FailureTest extends TestBase {
     }
 
     private static void testCauses() {
-        TrialStair stair = ran(OPEN, ALL, 0, 0, DIVIDE, 0, 0, 0, TAKER, 0, 0, 0,
+        Stair stair = ran(OPEN, ALL, 0, 0, DIVIDE, 0, 0, 0, TAKER, 0, 0, 0,
             OPEN, ALL, 0, 0, INSTEAD, FIRE, 0, 0, TAKER, 0, 0, 0,
             OPEN, ALL, 0, 0, INSTEAD, 4 + THEFT, 0, 0, TAKER, 0, 0, 0, INSTEAD, FLASH, 0, 0);
         dueFailure("three CAUSES", stair, FLASH, THEFT, FIRE, DIVISION);
@@ -87,7 +87,7 @@ final class FailureTest extends TestBase {
     }
 
     private static void testTakerOfWaitingRoutine() {
-        TrialStair stair = new TrialStair();
+        Stair stair = new Stair();
         add(stair, ROUTINE, 0, 0, 0, OPEN, ALL, 0, 0, THROW, THEFT, 0, 0, TAKER, 0, 0, 0, ROUTINE, 1, 0, 1,
             ROUTINE, 0, 0, 0, INSTEAD, FLASH, 0, 0);
         stair.run(0, 10);
@@ -107,7 +107,7 @@ final class FailureTest extends TestBase {
     }
 
     private static void testLatestOnly() {
-        TrialStair stair = ran(OPEN, ALL, 0, 0, THROW, THEFT, 0, 0, TAKER, 0, 0, 0, INSTEAD, FIRE, 0, 0);
+        Stair stair = ran(OPEN, ALL, 0, 0, THROW, THEFT, 0, 0, TAKER, 0, 0, 0, INSTEAD, FIRE, 0, 0);
         again(stair, TELL, 0, 0, 0);
         dueEnd("the latest run", stair, PLAINLY, 0);
         due("taken in the latest run", stair.status(7), 0);

@@ -10,19 +10,19 @@ final class GridTest extends TestBase {
 
     /** How many rows and places a GRID has, told by which of its places PUT reaches. */
     private static void testSize(int rows, int places, int wantRows, int wantPlaces) {
-        TrialStair stair = ran(SET, 1, rows, 0, SET, 2, places, 0, GRID, 9, 10, 0);
-        dueEnd("GRID", stair, PLAINLY, 0);
         for (int i = 0; i < 8; i++) {
+            Stair stair = ran(SET, 1, rows, 0, SET, 2, places, 0, GRID, 9, 10, 0);
+            dueEnd("GRID", stair, PLAINLY, 0);
             for (int j = 0; j < 8; j++) {
                 again(stair, SET, 1, i, 0, SET, 2, j, 0, SET, 3, 100 + 10 * i + j, 0, GRID_PUT, 1, 2, 3);
                 boolean has = i < wantRows && j < wantPlaces;
                 due("GRID " + rows + ", " + places + ": PUT " + i + ", " + j, stair.kind(), has ? -1 : INDEX);
             }
-        }
-        for (int i = 0; i < 9; i++) {
-            for (int j = 0; j < 9; j++) {
-                boolean has = i < wantRows && j < wantPlaces;
-                due("grid(" + i + ", " + j + ")", stair.grid(i, j), has ? 100 + 10 * i + j : 0);
+            for (int row = 0; row < 9; row++) {
+                for (int j = 0; j < 9; j++) {
+                    boolean has = row == i && i < wantRows && j < wantPlaces;
+                    due("grid(" + row + ", " + j + ")", stair.grid(row, j), has ? 100 + 10 * i + j : 0);
+                }
             }
         }
     }
@@ -38,7 +38,7 @@ final class GridTest extends TestBase {
     }
 
     private static void testPutAndLook() {
-        TrialStair stair = ran(SET, 1, 2, 0, GRID, 1, 1, 0, SET, 1, 1, 0, SET, 2, 65536, 0, TIMES, 2, 2, 2,
+        Stair stair = ran(SET, 1, 2, 0, GRID, 1, 1, 0, SET, 1, 1, 0, SET, 2, 65536, 0, TIMES, 2, 2, 2,
             SET, 3, -7, 0, ADD, 3, 3, 2, GRID_PUT, 9, 0, 11, GRID_LOOK, 1, 8, 12);
         due("the INT is kept", stair.grid(1, 0), -7);
         due("LOOK", stair.number(4), -7);
@@ -57,7 +57,7 @@ final class GridTest extends TestBase {
         int[] ops = {GRID_LOOK, GRID_PUT};
         for (int op : ops) {
             dueFailure("no GRID", ran(op, 0, 0, 0), NONE);
-            TrialStair stair = ran(SET, 1, 2, 0, SET, 2, 3, 0, SET, 3, 55, 0, GRID, 1, 2, 0, op, 1, 0, 3);
+            Stair stair = ran(SET, 1, 2, 0, SET, 2, 3, 0, SET, 3, 55, 0, GRID, 1, 2, 0, op, 1, 0, 3);
             dueFailure("row 2", stair, INDEX);
             again(stair, op, 0, 2, 3);
             dueFailure("place 3", stair, INDEX);
@@ -73,14 +73,14 @@ final class GridTest extends TestBase {
         dueFailure("SIZE makes none", ranTwice(), NONE);
     }
 
-    private static TrialStair ranTwice() {
-        TrialStair stair = ran(SET, 1, -1, 0, GRID, 1, 1, 0);
+    private static Stair ranTwice() {
+        Stair stair = ran(SET, 1, -1, 0, GRID, 1, 1, 0);
         again(stair, GRID_LOOK, 0, 0, 0);
         return stair;
     }
 
     private static void testMadeAnew() {
-        TrialStair stair = ran(SET, 1, 2, 0, GRID, 1, 1, 0, GRID_PUT, 0, 0, 1, GRID, 1, 1, 0);
+        Stair stair = ran(SET, 1, 2, 0, GRID, 1, 1, 0, GRID_PUT, 0, 0, 1, GRID, 1, 1, 0);
         due("all 0 again", stair.grid(0, 0), 0);
         again(stair, GRID_PUT, 0, 0, 1);
         due("from run to run", stair.grid(0, 0), 2);

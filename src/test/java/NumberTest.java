@@ -11,7 +11,7 @@ final class NumberTest extends TestBase {
     }
 
     private static void testSet() {
-        TrialStair stair = ran(SET, 0, 5, 0, SET, 9, -6, 0, SET, -1, Integer.MIN_VALUE, 0, SET, 2, Integer.MAX_VALUE, 0);
+        Stair stair = ran(SET, 0, 5, 0, SET, 9, -6, 0, SET, -1, Integer.MIN_VALUE, 0, SET, 2, Integer.MAX_VALUE, 0);
         due("number 0", stair.number(0), 5);
         due("number 1", stair.number(1), -6);
         due("number 7", stair.number(7), Integer.MIN_VALUE);
@@ -41,8 +41,8 @@ final class NumberTest extends TestBase {
     /** NUMBER 1 is the least long then, NUMBER 2 is -1. */
     private static final int[] LEAST = {SET, 1, Integer.MIN_VALUE, 0, TIMES, 1, 1, 1, ADD, 1, 1, 1, SET, 2, -1, 0};
 
-    private static TrialStair least(int op, int a, int b, int c) {
-        TrialStair stair = ran(LEAST);
+    private static Stair least(int op, int a, int b, int c) {
+        Stair stair = ran(LEAST);
         due("the least long", stair.number(1), Long.MIN_VALUE);
         again(stair, op, a, b, c);
         return stair;
@@ -59,7 +59,7 @@ final class NumberTest extends TestBase {
     private static void testDivision() {
         int[] ops = {DIVIDE, REST};
         for (int op : ops) {
-            TrialStair stair = ran(SET, 1, 4, 0, op, 1, 1, 0);
+            Stair stair = ran(SET, 1, 4, 0, op, 1, 1, 0);
             dueFailure("op " + op + " by 0", stair, DIVISION);
             due("op " + op + " by 0 leaves the number", stair.number(1), 4);
         }
@@ -67,7 +67,7 @@ final class NumberTest extends TestBase {
     }
 
     private static void testOutputs() {
-        TrialStair stair = ran(SET, 2, 8, 0, SET, 1, 440, 0, LOOP, 1, 0, 0, TELL, 9, 0, 0, END, 0, 0, 0);
+        Stair stair = ran(SET, 2, 8, 0, SET, 1, 440, 0, LOOP, 1, 0, 0, TELL, 9, 0, 0, END, 0, 0, 0);
         due("outputs", stair.status(4), 440);
         due("out(0)", stair.out(0), 439);
         due("out(439)", stair.out(439), 0);
@@ -81,7 +81,7 @@ final class NumberTest extends TestBase {
     }
 
     private static void testOnly500() {
-        TrialStair stair = new TrialStair();
+        Stair stair = new Stair();
         add(stair, ROUTINE, 0, 0, 0, SET, 1, 300, 0, LOOP, 1, 0, 0, TELL, 1, 0, 0, TELL, 1, 0, 0, END, 0, 0, 0);
         due("steps", stair.run(0, 1000), 902);
         due("only 500 are kept", stair.status(4), 500);
@@ -91,7 +91,7 @@ final class NumberTest extends TestBase {
     }
 
     private static void testNumbersStay() {
-        TrialStair stair = ran(SET, 1, 5, 0);
+        Stair stair = ran(SET, 1, 5, 0);
         again(stair, ADD, 2, 1, 1);
         due("from run to run", stair.number(2), 10);
         again(stair, SET, 1, 6, 0, THROW, 0, 0, 0);

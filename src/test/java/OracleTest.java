@@ -4,7 +4,10 @@ import java.util.Random;
 
 /** Random scripts, the same each time, worked by TrialStair and by the Oracle. */
 final class OracleTest extends TestBase {
-    private static final int STAIRS = 8000;
+    private static final int CALLS_OF_COMPARE = 12;
+    private static final int QUESTIONS = 20;
+    private static final int CALLS_KEPT = 120;
+    private static final int STAIRS = 20000;
     private static final int[] EDGES = {
         0, 1, -1, 2, 3, 7, 8, 62, 63, 64, 65, 127, 128, 255, 256, 32767, 32768, 65535, 65536, 16777217, 16777219,
         Integer.MAX_VALUE, Integer.MIN_VALUE, -128, -129, -32769
@@ -18,7 +21,7 @@ final class OracleTest extends TestBase {
     };
 
     private final Random random;
-    private final TrialStair stair = new TrialStair();
+    private final Stair stair = new Stair();
     private final Oracle oracle = new Oracle();
     private final String name;
 
@@ -34,9 +37,10 @@ final class OracleTest extends TestBase {
                 test.furnish();
             }
             int scripts = 1 + test.random.nextInt(4);
-            for (int i = 0; i < scripts; i++) {
+            for (int i = 0; i < scripts && test.stair.callsLeft() > CALLS_KEPT; i++) {
                 test.tryScript();
             }
+            test.compare(test.stair.callsLeft() - CALLS_OF_COMPARE);
         }
         close();
     }
@@ -53,7 +57,6 @@ final class OracleTest extends TestBase {
         }
         addStep(GRID, random.nextInt(8), random.nextInt(8), 0);
         due(name + ": furnished", stair.run(0, 100), oracle.run(0, 100));
-        compareAll();
     }
 
     private void tryScript() {
@@ -69,15 +72,19 @@ final class OracleTest extends TestBase {
             addPart(4 + random.nextInt(20), 0, routines);
         }
         int tries = 1 + random.nextInt(3);
-        for (int i = 0; i < tries; i++) {
+        for (int i = 0; i < tries && stair.callsLeft() > 2 * CALLS_OF_COMPARE + QUESTIONS; i++) {
             int r = random.nextInt(routines + 1) - random.nextInt(2) * random.nextInt(2);
             int n = random.nextInt(8) == 0 ? random.nextInt(1200) - 50 : 1 + random.nextInt(random.nextInt(6) == 0 ? 1000 : 120);
             due(name + ": run(" + r + ", " + n + ")", stair.run(r, n), oracle.run(r, n));
-            compareAll();
+            compare(QUESTIONS);
         }
     }
 
+    /** A script ends early where too few calls would be left to ask what came of it. */
     private void addStep(int op, int a, int b, int c) {
+        if (stair.callsLeft() <= CALLS_KEPT) {
+            return;
+        }
         due(name + ": step", stair.step(op, a, b, c), oracle.step(op, a, b, c));
     }
 
@@ -185,43 +192,69 @@ final class OracleTest extends TestBase {
         addEnd(CLOSE);
     }
 
-    private void compareAll() {
+    /** What is told of the run, and some of the answers that need an argument. */
+    private void compare(int questions) {
         due(name + ": end", stair.end(), oracle.end());
         due(name + ": result", stair.result(), oracle.result());
         due(name + ": kind", stair.kind(), oracle.kind());
         due(name + ": depth", stair.depth(), oracle.depth());
-        for (int i = -1; i <= 8; i++) {
-            due(name + ": status " + i, stair.status(i), oracle.status(i));
-            due(name + ": number " + i, stair.number(i), oracle.number(i));
-            due(name + ": hand " + i, stair.hand(i), oracle.hand(i));
-            due(name + ": mark " + i, stair.mark(i), oracle.mark(i));
+        for (int what = 0; what < 8; what++) {
+            due(name + ": status " + what, stair.status(what), oracle.status(what));
         }
-        for (int i = -1; i <= oracle.status(4); i++) {
-            due(name + ": out " + i, stair.out(i), oracle.out(i));
-        }
-        for (int i = -1; i <= oracle.status(5); i++) {
-            due(name + ": finished " + i, stair.finished(i), oracle.finished(i));
-        }
-        for (int i = -1; i <= oracle.status(6); i++) {
-            due(name + ": cause " + i, stair.cause(i), oracle.cause(i));
-        }
-        compareRows();
-        for (int i = -1; i <= 8; i++) {
-            for (int j = -1; j <= 8; j++) {
-                due(name + ": grid", stair.grid(i, j), oracle.grid(i, j));
+        for (int i = 0; i < questions; i++) {
+            if (random.nextBoolean()) {
+                askOfRun();
+            } else {
+                askOfHouse();
             }
         }
     }
 
-    private void compareRows() {
-        for (int sort = -1; sort <= 8; sort++) {
-            for (int shelf = -1; shelf <= 8; shelf++) {
-                int size = oracle.size(sort, shelf);
-                due(name + ": size", stair.size(sort, shelf), size);
-                for (int i = -1; i <= size; i++) {
-                    due(name + ": value", stair.value(sort, shelf, i), oracle.value(sort, shelf, i));
-                }
-            }
+    /** A place of so many, or one just beside them. */
+    private int placeOf(int places) {
+        return random.nextInt(Math.max(places, 0) + 2) - 1;
+    }
+
+    private void askOfRun() {
+        int out = placeOf(oracle.status(4));
+        int finish = placeOf(oracle.status(5));
+        int cause = placeOf(oracle.status(6));
+        switch (random.nextInt(3)) {
+            case 0:
+                due(name + ": out " + out, stair.out(out), oracle.out(out));
+                break;
+            case 1:
+                due(name + ": finished " + finish, stair.finished(finish), oracle.finished(finish));
+                break;
+            default:
+                due(name + ": cause " + cause, stair.cause(cause), oracle.cause(cause));
+                break;
+        }
+    }
+
+    private void askOfHouse() {
+        int i = placeOf(8);
+        int j = placeOf(random.nextInt(3) == 0 ? 8 : 2);
+        int place = placeOf(oracle.size(i, j));
+        switch (random.nextInt(6)) {
+            case 0:
+                due(name + ": number " + i, stair.number(i), oracle.number(i));
+                break;
+            case 1:
+                due(name + ": hand " + i, stair.hand(i), oracle.hand(i));
+                break;
+            case 2:
+                due(name + ": mark " + i, stair.mark(i), oracle.mark(i));
+                break;
+            case 3:
+                due(name + ": size " + i + ", " + j, stair.size(i, j), oracle.size(i, j));
+                break;
+            case 4:
+                due(name + ": value " + i + ", " + j + ", " + place, stair.value(i, j, place), oracle.value(i, j, place));
+                break;
+            default:
+                due(name + ": grid " + i + ", " + place, stair.grid(i, place), oracle.grid(i, place));
+                break;
         }
     }
 }

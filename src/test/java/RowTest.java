@@ -14,7 +14,7 @@ final class RowTest extends TestBase {
     }
 
     private static void testAsking() {
-        TrialStair stair = ran(SET, 1, 2, 0, MAKE, 8 * LONGS + 3, 1, 0, PUT, 8 * LONGS + 3, 0, 1);
+        Stair stair = ran(SET, 1, 2, 0, MAKE, 8 * LONGS + 3, 1, 0, PUT, 8 * LONGS + 3, 0, 1);
         due("size", stair.size(LONGS, 3), 2);
         due("value", stair.value(LONGS, 3, 0), 2);
         due("no ROW: size", stair.size(LONGS, 2), -1);
@@ -47,7 +47,7 @@ final class RowTest extends TestBase {
         due("-1 place", sizeMade(-1), -1);
         dueFailure("-1 place", ran(SET, 1, -1, 0, MAKE, 0, 1, 0), SIZE);
         dueFailure("least places", ran(SET, 1, Integer.MIN_VALUE, 0, MAKE, 0, 1, 0), SIZE);
-        TrialStair stair = ran(SET, 1, Integer.MAX_VALUE, 0, SET, 2, 1, 0, ADD, 1, 1, 2, MAKE, 0, 1, 0);
+        Stair stair = ran(SET, 1, Integer.MAX_VALUE, 0, SET, 2, 1, 0, ADD, 1, 1, 2, MAKE, 0, 1, 0);
         dueFailure("the INT of 2^31 is below 0", stair, SIZE);
         again(stair, SET, 1, Integer.MIN_VALUE, 0, ADD, 1, 1, 1, ADD, 1, 1, 2, MAKE, 0, 1, 0);
         due("the INT of 1 - 2^32 is 1", stair.size(BYTES, 0), 1);
@@ -56,7 +56,7 @@ final class RowTest extends TestBase {
     }
 
     private static void testMakeAgain() {
-        TrialStair stair = ran(SET, 1, 3, 0, SET, 2, 2, 0, MAKE, 8, 1, 0, PUT, 8, 2, 1, MAKE, 8, 1, 0);
+        Stair stair = ran(SET, 1, 3, 0, SET, 2, 2, 0, MAKE, 8, 1, 0, PUT, 8, 2, 1, MAKE, 8, 1, 0);
         due("all 0 again", stair.value(CHARS, 0, 2), 0);
         again(stair, PUT, 8, 2, 1, SET, 1, -1, 0, MAKE, 8, 1, 0);
         dueFailure("SIZE", stair, SIZE);
@@ -75,7 +75,7 @@ final class RowTest extends TestBase {
             for (int op : ops) {
                 String what = "sort " + sort + ", op " + op;
                 dueFailure(what + ": none", ran(op, 8 * sort, 0, 0), NONE);
-                TrialStair stair = ran(SET, 1, 3, 0, MAKE, 8 * sort, 1, 0, op, 8 * sort, 1, 0);
+                Stair stair = ran(SET, 1, 3, 0, MAKE, 8 * sort, 1, 0, op, 8 * sort, 1, 0);
                 dueFailure(what + ": place 3", stair, INDEX);
                 again(stair, SET, 1, -1, 0, op, 8 * sort, 1, 0);
                 dueFailure(what + ": place -1", stair, INDEX);
@@ -86,7 +86,7 @@ final class RowTest extends TestBase {
             due("sort " + sort + ": LENGTH", ran(SET, 1, 3, 0, MAKE, 8 * sort + 1, 1, 0, LENGTH, 8 * sort + 1, 10, 0)
                 .number(2), 3);
         }
-        TrialStair stair = ran(SET, 1, 5, 0, OPEN, ALL, 0, 0, LENGTH, 0, 1, 0, TAKER, 0, 0, 0);
+        Stair stair = ran(SET, 1, 5, 0, OPEN, ALL, 0, 0, LENGTH, 0, 1, 0, TAKER, 0, 0, 0);
         due("LENGTH of none leaves the number", stair.number(1), 5);
         again(stair, MAKE, 0, 0, 0, OPEN, ALL, 0, 0, LOOK, 0, 0, 1, TAKER, 0, 0, 0);
         due("LOOK at none leaves the number", stair.number(1), 5);
@@ -95,7 +95,7 @@ final class RowTest extends TestBase {
     }
 
     private static long kept(int sort, int high, int low) {
-        TrialStair stair = ran(SET, 1, 1, 0, MAKE, 8 * sort, 1, 0, SET, 2, 65536, 0, TIMES, 2, 2, 2, SET, 3, high, 0,
+        Stair stair = ran(SET, 1, 1, 0, MAKE, 8 * sort, 1, 0, SET, 2, 65536, 0, TIMES, 2, 2, 2, SET, 3, high, 0,
             TIMES, 2, 2, 3, SET, 3, low, 0, ADD, 2, 2, 3, PUT, 8 * sort, 0, 10, LOOK, 8 * sort, 0, 12);
         due("LOOK as value()", stair.number(4), stair.value(sort, 0, 0));
         return stair.value(sort, 0, 0);
@@ -137,14 +137,14 @@ final class RowTest extends TestBase {
 
     /** The greatest long becomes 2^63, and the greatest long again. */
     private static void testGreatest(int sort) {
-        TrialStair stair = ran(SET, 1, Integer.MIN_VALUE, 0, TIMES, 1, 1, 1, ADD, 1, 1, 1, SET, 2, 1, 0, LESS, 1, 1, 2,
+        Stair stair = ran(SET, 1, Integer.MIN_VALUE, 0, TIMES, 1, 1, 1, ADD, 1, 1, 1, SET, 2, 1, 0, LESS, 1, 1, 2,
             MAKE, 8 * sort, 2, 0, PUT, 8 * sort, 0, 1, LOOK, 8 * sort, 0, 3);
         due("greatest of sort " + sort, stair.number(3), Long.MAX_VALUE);
         due("greatest of sort " + sort, stair.value(sort, 0, 0), Long.MAX_VALUE);
     }
 
     private static void testThings() {
-        TrialStair stair = ran(SET, 1, 3, 0, SET, 2, 1, 0, MAKE, 8 * THINGS, 1, 0, THING, 1, HAMMER, 1, THING, 2, CHISEL, 1,
+        Stair stair = ran(SET, 1, 3, 0, SET, 2, 1, 0, MAKE, 8 * THINGS, 1, 0, THING, 1, HAMMER, 1, THING, 2, CHISEL, 1,
             PUT, 8 * THINGS, 0, 9, PUT, 8 * THINGS, 2, 2, LOOK, 8 * THINGS, 0, 11, LOOK, 8 * THINGS, 1, 10);
         due("a HAMMER", stair.value(THINGS, 0, 0), HAMMER);
         due("a CHISEL", stair.value(THINGS, 0, 1), CHISEL);
@@ -165,7 +165,7 @@ final class RowTest extends TestBase {
     private static void testSawsAlone() {
         int[] make = {SET, 1, 2, 0, MAKE, 8 * THINGS, 1, 3, THING, 1, HAMMER, 0, THING, 2, SAW, 0, THING, 3, CHISEL, 0,
             PUT, 8 * THINGS, 0, 2, SET, 2, 1, 0, PUT, 8 * THINGS, 2, 3};
-        TrialStair stair = ran(make);
+        Stair stair = ran(make);
         due("a SAW", stair.value(THINGS, 0, 0), SAW);
         due("a CHISEL", stair.value(THINGS, 0, 1), CHISEL);
         again(stair, PUT, 8 * THINGS, 0, 1);
@@ -182,7 +182,7 @@ final class RowTest extends TestBase {
     }
 
     private static void testRowsAreApart() {
-        TrialStair stair = new TrialStair();
+        Stair stair = new Stair();
         add(stair, ROUTINE, 0, 0, 0, SET, 1, 1, 0, THING, 1, SAW, 0);
         for (int i = 0; i < 56; i++) {
             add(stair, SET, 2, i, 0, MAKE, i, 1, 0, PUT, i, 0, 2);

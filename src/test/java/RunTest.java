@@ -20,7 +20,7 @@ final class RunTest extends TestBase {
     }
 
     private static void testRefusals() {
-        TrialStair stair = new TrialStair();
+        Stair stair = new Stair();
         due("no routine", stair.run(0, 0), -1);
         add(stair, TELL, 0, 0, 0, ROUTINE, 0, 0, 1);
         due("a CALL is no MARK", stair.run(0, 1), -1);
@@ -41,7 +41,7 @@ final class RunTest extends TestBase {
     }
 
     private static void testRefusedLeavesAll() {
-        TrialStair stair = ran(SET, 1, 3, 0, TELL, 1, 0, 0, RETURN, 1, 0, 0);
+        Stair stair = ran(SET, 1, 3, 0, TELL, 1, 0, 0, RETURN, 1, 0, 0);
         due("refused", stair.run(1, 10), -1);
         due("refused", stair.run(0, 0), -2);
         dueEnd("after refusals", stair, BY_RETURN, 3);
@@ -52,7 +52,7 @@ final class RunTest extends TestBase {
     }
 
     private static void testAllSteps() {
-        TrialStair stair = new TrialStair();
+        Stair stair = new Stair();
         add(stair, ROUTINE, 0, 0, 0, SET, 0, Integer.MAX_VALUE, 0, LOOP, 0, 0, 0, ROUTINE, 0, 0, 0, TELL, 0, 0, 0);
         for (int i = 0; i < 7; i++) {
             due("run", stair.run(0, 1000), 1000);
@@ -79,7 +79,7 @@ final class RunTest extends TestBase {
         dueEnd("BREAK", ran(SET, 0, 5, 0, BREAK, 0, 0, 0, TELL, 1, 0, 0), BY_RETURN, 0);
         dueEnd("AGAIN", ran(SET, 0, 5, 0, AGAIN, 0, 0, 0, TELL, 1, 0, 0), BY_RETURN, 0);
         dueFailure("failed", ran(SET, 0, 5, 0, THROW, THEFT, 0, 0), THEFT);
-        TrialStair stair = ran(SET, 1, 5, 0, RETURN, 1, 0, 0);
+        Stair stair = ran(SET, 1, 5, 0, RETURN, 1, 0, 0);
         again(stair, SET, 1, 6, 0);
         dueEnd("plainly after RETURN", stair, PLAINLY, 0);
         again(stair, THROW_NOTHING, 0, 0, 0);
@@ -95,14 +95,14 @@ final class RunTest extends TestBase {
         dueEnd("failed after RETURN: none", ranToPlain(), PLAINLY, 0);
     }
 
-    private static TrialStair ranToPlain() {
+    private static Stair ranToPlain() {
         return ran(SET, 1, 4, 0, OPEN, ALL, 0, 0,
             OPEN, 0, 0, 0, RETURN, 1, 0, 0, FINISH, 0, 0, 0, THROW, 0, 0, 0, CLOSE, 0, 0, 0,
             TAKER, 0, 0, 0, CLOSE, 0, 0, 0);
     }
 
     private static void testSpent() {
-        TrialStair stair = new TrialStair();
+        Stair stair = new Stair();
         add(stair, ROUTINE, 0, 0, 0, SET, 1, 5, 0, OPEN, ALL, 0, 0, SET, 2, 6, 0, SET, 3, 7, 0,
             TAKER, 0, 0, 0, TELL, 1, 0, 0, FINISH, 0, 0, 0, TELL, 1, 0, 0, CLOSE, 0, 0, 0);
         due("run of 3", stair.run(0, 3), 3);
@@ -124,7 +124,7 @@ final class RunTest extends TestBase {
     }
 
     private static void testSpentInFinish() {
-        TrialStair stair = new TrialStair();
+        Stair stair = new Stair();
         add(stair, ROUTINE, 0, 0, 0, OPEN, ALL, 0, 0, THROW, 0, 0, 0, TAKER, 0, 0, 0, FINISH, 0, 0, 0, TELL, 1, 0, 0,
             CLOSE, 0, 0, 0, TELL, 1, 0, 0);
         due("run of 2", stair.run(0, 2), 2);
@@ -137,7 +137,7 @@ final class RunTest extends TestBase {
     }
 
     private static void testWhatTakesSteps() {
-        TrialStair stair = new TrialStair();
+        Stair stair = new Stair();
         due("LOOP looks four times", again(stair, SET, 1, 3, 0, LOOP, 1, 0, 0, END, 0, 0, 0), 5);
         due("LOOP looks once", again(stair, LOOP, 0, 0, 0, TELL, 0, 0, 0, END, 0, 0, 0), 1);
         due("IF", again(stair, IF, 0, 0, 0, TELL, 0, 0, 0, END, 0, 0, 0), 1);
@@ -159,7 +159,7 @@ final class RunTest extends TestBase {
     }
 
     private static void testDepth() {
-        TrialStair stair = ran(TELL, 0, 0, 0);
+        Stair stair = ran(TELL, 0, 0, 0);
         due("a routine", stair.depth(), 1);
         again(stair, IF, 0, 0, 0, END, 0, 0, 0);
         due("an IF that does not hold", stair.depth(), 2);
@@ -181,7 +181,7 @@ final class RunTest extends TestBase {
     }
 
     private static void testTooDeepByCalls() {
-        TrialStair stair = new TrialStair();
+        Stair stair = new Stair();
         add(stair, ROUTINE, 0, 0, 0, OPEN, ALL, 0, 0, ADD, 1, 1, 2, ROUTINE, 0, 0, 1, TAKER, 0, 0, 0, TELL, 0, 0, 0,
             FINISH, 0, 0, 0, TELL, 0, 0, 0, CLOSE, 0, 0, 0);
         due("steps", stair.run(0, 1000), 300);
@@ -196,8 +196,8 @@ final class RunTest extends TestBase {
         due("and is one too many", stair.end(), SPENT);
     }
 
-    private static TrialStair nested(int blocks, int op) {
-        TrialStair stair = new TrialStair();
+    private static Stair nested(int blocks, int op) {
+        Stair stair = new Stair();
         add(stair, ROUTINE, 0, 0, 0, SET, 1, 1000, 0);
         for (int i = 0; i < blocks; i++) {
             add(stair, op, op == IF ? 2 : 1, 1, 0);
@@ -208,13 +208,13 @@ final class RunTest extends TestBase {
     private static void testTooDeepByBlocks() {
         int[] ops = {OPEN, LOOP, IF};
         for (int op : ops) {
-            TrialStair stair = nested(200, op);
+            Stair stair = nested(200, op);
             due("steps of " + op, stair.run(0, 1000), 201);
             dueEnd("TOO DEEP by " + op, stair, TOO_DEEP, 0);
             due("depth of " + op, stair.depth(), 200);
             due("the number of a LOOP that is not OPEN", stair.number(1), op == LOOP ? 801 : 1000);
         }
-        TrialStair stair = nested(199, OPEN);
+        Stair stair = nested(199, OPEN);
         add(stair, IF, 0, 0, 0);
         stair.run(0, 1000);
         due("IF that would not hold", stair.end(), TOO_DEEP);
@@ -225,7 +225,7 @@ final class RunTest extends TestBase {
     }
 
     private static void testTwoHundredOpen() {
-        TrialStair stair = nested(199, OPEN);
+        Stair stair = nested(199, OPEN);
         add(stair, TELL, 1, 0, 0);
         due("steps", stair.run(0, 1000), 201);
         dueEnd("200 are not TOO DEEP", stair, PLAINLY, 0);
@@ -234,21 +234,21 @@ final class RunTest extends TestBase {
     }
 
     private static void testSpentAheadOfTooDeep() {
-        TrialStair stair = nested(200, OPEN);
+        Stair stair = nested(200, OPEN);
         due("steps", stair.run(0, 200), 200);
         dueEnd("no step for the 201st", stair, SPENT, 0);
         due("depth", stair.depth(), 200);
     }
 
     private static void testMissingRoutineAtTheEdge() {
-        TrialStair stair = nested(199, IF);
+        Stair stair = nested(199, IF);
         add(stair, ROUTINE, 7, 0, 1);
         due("steps", stair.run(0, 1000), 201);
         dueFailure("CALL of none at 200 OPEN", stair, NONE);
     }
 
     private static void testStatus() {
-        TrialStair stair = new TrialStair();
+        Stair stair = new Stair();
         add(stair, ROUTINE, 0, 0, 0, OPEN, ALL, 0, 0, OPEN, ALL, 0, 0, THROW, 2, 0, 0, TAKER, 0, 0, 0, TELL, 0, 0, 0,
             INSTEAD, 3, 0, 0, FINISH, 0, 0, 0, CLOSE, 0, 0, 0, TAKER, 0, 0, 0, INSTEAD, 1, 0, 0, FINISH, 0, 0, 0,
             CLOSE, 0, 0, 0, ROUTINE, 0, 0, 2);

@@ -10,7 +10,7 @@ final class ScriptTest extends TestBase {
     }
 
     private static void testNewObject() {
-        TrialStair stair = new TrialStair();
+        Stair stair = new Stair();
         due("new: end", stair.end(), -1);
         due("new: result", stair.result(), 0);
         due("new: kind", stair.kind(), -1);
@@ -36,7 +36,7 @@ final class ScriptTest extends TestBase {
     }
 
     private static void testStep() {
-        TrialStair stair = new TrialStair();
+        Stair stair = new Stair();
         for (int op = 0; op < 36; op++) {
             due("step " + op, stair.step(op, -1, Integer.MIN_VALUE, Integer.MAX_VALUE), op + 1);
         }
@@ -48,7 +48,7 @@ final class ScriptTest extends TestBase {
     }
 
     private static void testFullScript() {
-        TrialStair stair = new TrialStair();
+        Stair stair = Stair.ofAnyCalls();
         for (int i = 1; i <= 2000; i++) {
             due("step", stair.step(i == 1000 ? ROUTINE : TELL, 0, 0, 0), i);
         }
@@ -63,7 +63,7 @@ final class ScriptTest extends TestBase {
     }
 
     private static void testWipe() {
-        TrialStair stair = ran(SET, 1, 7, 0, THING, 2, SAW, 1, MAKE, 8 * INTS, 1, 0, GRID, 1, 1, 0, TELL, 1, 0, 0,
+        Stair stair = ran(SET, 1, 7, 0, THING, 2, SAW, 1, MAKE, 8 * INTS, 1, 0, GRID, 1, 1, 0, TELL, 1, 0, 0,
             OPEN, ALL, 0, 0, THROW, THEFT, 0, 0, TAKER, 0, 0, 0, INSTEAD, FIRE, 0, 0, FINISH, 0, 0, 0, CLOSE, 0, 0, 0);
         due("wipe", stair.wipe(), 12);
         due("wiped: steps", stair.status(0), 0);
@@ -86,7 +86,7 @@ final class ScriptTest extends TestBase {
 
     /** A BLOCK of a wiped script takes nothing of the next one. */
     private static void testWipeForgetsBlocks() {
-        TrialStair stair = new TrialStair();
+        Stair stair = new Stair();
         add(stair, ROUTINE, 0, 0, 0, OPEN, ALL, 0, 0);
         stair.wipe();
         add(stair, TAKER, 0, 0, 0, ROUTINE, 0, 0, 0, OPEN, ALL, 0, 0, THROW, 0, 0, 0, CLOSE, 0, 0, 0);

@@ -39,34 +39,34 @@ abstract class TestBase {
     }
 
     /** Adds steps, four numbers each. */
-    static void add(TrialStair stair, int... numbers) {
+    static void add(Stair stair, int... numbers) {
         for (int i = 0; i + 3 < numbers.length; i += 4) {
             stair.step(numbers[i], numbers[i + 1], numbers[i + 2], numbers[i + 3]);
         }
     }
 
     /** A new script on the stair: one routine with these steps. */
-    static void rewrite(TrialStair stair, int... numbers) {
+    static void rewrite(Stair stair, int... numbers) {
         stair.wipe();
         add(stair, ROUTINE, 0, 0, 0);
         add(stair, numbers);
     }
 
     /** A new stair on which one routine with these steps has been run. */
-    static TrialStair ran(int... numbers) {
-        TrialStair stair = new TrialStair();
+    static Stair ran(int... numbers) {
+        Stair stair = new Stair();
         again(stair, numbers);
         return stair;
     }
 
     /** Runs one routine with these steps, the HOUSE being what it is. */
-    static int again(TrialStair stair, int... numbers) {
+    static int again(Stair stair, int... numbers) {
         rewrite(stair, numbers);
         return stair.run(0, 900);
     }
 
     /** The outputs of the latest run are these, and there are no others. */
-    static void dueOutputs(String what, TrialStair stair, long... outputs) {
+    static void dueOutputs(String what, Stair stair, long... outputs) {
         due(what + ": outputs", stair.status(4), outputs.length);
         for (int i = 0; i < outputs.length; i++) {
             due(what + ": out(" + i + ")", stair.out(i), outputs[i]);
@@ -75,7 +75,7 @@ abstract class TestBase {
     }
 
     /** The finishing parts begun in the latest run are those of these trials. */
-    static void dueFinished(String what, TrialStair stair, int... places) {
+    static void dueFinished(String what, Stair stair, int... places) {
         due(what + ": finishing parts", stair.status(5), places.length);
         for (int i = 0; i < places.length; i++) {
             due(what + ": finished(" + i + ")", stair.finished(i), places[i]);
@@ -84,7 +84,7 @@ abstract class TestBase {
     }
 
     /** The latest run failed with a kind, and with these CAUSES. */
-    static void dueFailure(String what, TrialStair stair, int kind, int... causes) {
+    static void dueFailure(String what, Stair stair, int kind, int... causes) {
         due(what + ": end", stair.end(), BY_FAILURE);
         due(what + ": result", stair.result(), 0);
         due(what + ": kind", stair.kind(), kind);
@@ -96,7 +96,7 @@ abstract class TestBase {
         due(what + ": cause(-1)", stair.cause(-1), -1);
     }
 
-    static void dueEnd(String what, TrialStair stair, int end, long result) {
+    static void dueEnd(String what, Stair stair, int end, long result) {
         due(what + ": end", stair.end(), end);
         due(what + ": result", stair.result(), result);
         due(what + ": kind", stair.kind(), -1);

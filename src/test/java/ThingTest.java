@@ -13,12 +13,12 @@ final class ThingTest extends TestBase {
     }
 
     /** HANDS 0 to 2 have a HAMMER, a SAW and a CHISEL, all with MARK 6, HAND 3 has nothing; NUMBER 1 is 5. */
-    private static TrialStair tools() {
+    private static Stair tools() {
         return ran(SET, 1, 6, 0, THING, 8, 4 + HAMMER, 9, THING, 1, SAW, 1, THING, 2, -2, 1, SET, 1, 5, 0);
     }
 
     private static void testThing() {
-        TrialStair stair = tools();
+        Stair stair = tools();
         for (int i = 0; i < 3; i++) {
             due("hand " + i, stair.hand(i), i);
             due("mark " + i, stair.mark(i), 6);
@@ -36,7 +36,7 @@ final class ThingTest extends TestBase {
     }
 
     private static void testGive() {
-        TrialStair stair = tools();
+        Stair stair = tools();
         again(stair, GIVE, 9, 12, 0, SET, 2, 77, 0, MARK_PUT, 1, 2, 0);
         due("HAND 4 has it", stair.hand(4), SAW);
         due("HAND 1 has it, too", stair.hand(1), SAW);
@@ -50,7 +50,7 @@ final class ThingTest extends TestBase {
     }
 
     private static void testMark() {
-        TrialStair stair = tools();
+        Stair stair = tools();
         again(stair, MARK, 10, 11, 0);
         due("MARK", stair.number(3), 6);
         again(stair, MARK_PUT, 8, 9, 0);
@@ -62,7 +62,7 @@ final class ThingTest extends TestBase {
         boolean[][] fits = {{true, false, false, false}, {false, true, false, true}, {false, true, true, true}};
         for (int kind = 0; kind < 3; kind++) {
             for (int as = 0; as < 4; as++) {
-                TrialStair stair = tools();
+                Stair stair = tools();
                 again(stair, THING, 4, CHISEL, 0, CAST, kind + 8, as - 4, 12);
                 if (fits[kind][as]) {
                     dueEnd("CAST " + kind + " as " + as, stair, PLAINLY, 0);
@@ -75,7 +75,7 @@ final class ThingTest extends TestBase {
             }
         }
         for (int as = 0; as < 4; as++) {
-            TrialStair stair = tools();
+            Stair stair = tools();
             again(stair, CAST, 3, as, 1);
             dueEnd("CAST of nothing as " + as, stair, PLAINLY, 0);
             due("CAST of nothing as " + as, stair.hand(1), -1);
@@ -83,7 +83,7 @@ final class ThingTest extends TestBase {
     }
 
     private static long worked(int op, int hand) {
-        TrialStair stair = tools();
+        Stair stair = tools();
         again(stair, op, hand + 8, 9, 10);
         return stair.number(2);
     }
@@ -97,7 +97,7 @@ final class ThingTest extends TestBase {
     private static void testRing() {
         due("SAW", worked(RING, 1), 3);
         due("CHISEL", worked(RING, 2), 4);
-        TrialStair stair = tools();
+        Stair stair = tools();
         again(stair, SET, 2, 9, 0, RING, 0, 1, 2);
         dueFailure("HAMMER", stair, MISCAST);
         due("the number is left", stair.number(2), 9);
@@ -114,7 +114,7 @@ final class ThingTest extends TestBase {
     private static void testNothing() {
         int[] ops = {MARK, MARK_PUT, USE, RING, WEIGH};
         for (int op : ops) {
-            TrialStair stair = tools();
+            Stair stair = tools();
             again(stair, op, 3, 1, 1);
             dueFailure("op " + op + " of nothing", stair, NONE);
             due("op " + op + " of nothing leaves the number", stair.number(1), 5);

@@ -18,7 +18,7 @@ final class TrialTest extends TestBase {
     }
 
     private static void testPlainTrial() {
-        TrialStair stair = ran(OPEN, ALL, 0, 0, TELL, 0, 0, 0, TAKER, 0, 0, 0, TELL, 1, 0, 0, FINISH, 0, 0, 0,
+        Stair stair = ran(OPEN, ALL, 0, 0, TELL, 0, 0, 0, TAKER, 0, 0, 0, TELL, 1, 0, 0, FINISH, 0, 0, 0,
             SET, 2, 3, 0, TELL, 2, 0, 0, CLOSE, 0, 0, 0, SET, 2, 4, 0, TELL, 2, 0, 0);
         dueOutputs("BODY, FINISH, behind it", stair, 0, 3, 4);
         dueFinished("plain", stair, 1);
@@ -27,7 +27,7 @@ final class TrialTest extends TestBase {
     }
 
     private static void testTakenFailure() {
-        TrialStair stair = ran(SET, 1, 1, 0, SET, 2, 2, 0, SET, 3, 3, 0, OPEN, 8, 0, 0, THROW, THEFT, 0, 0,
+        Stair stair = ran(SET, 1, 1, 0, SET, 2, 2, 0, SET, 3, 3, 0, OPEN, 8, 0, 0, THROW, THEFT, 0, 0,
             TELL, 0, 0, 0, TAKER, 0, 0, 0, TELL, 1, 0, 0, FINISH, 0, 0, 0, TELL, 2, 0, 0, CLOSE, 0, 0, 0,
             TELL, 3, 0, 0);
         dueOutputs("TAKER, FINISH, behind it", stair, 1, 2, 3);
@@ -40,14 +40,14 @@ final class TrialTest extends TestBase {
     }
 
     private static void testTrialWithoutTaker() {
-        TrialStair stair = ran(OPEN, -1, 0, 0, THROW, FIRE, 0, 0, CLOSE, 0, 0, 0, TELL, 0, 0, 0);
+        Stair stair = ran(OPEN, -1, 0, 0, THROW, FIRE, 0, 0, CLOSE, 0, 0, 0, TELL, 0, 0, 0);
         dueFailure("no TAKER", stair, FIRE);
         due("no TAKER: taken", stair.status(7), 0);
         dueOutputs("no TAKER", stair);
     }
 
     private static void testTakerFails() {
-        TrialStair stair = ran(OPEN, ALL, 0, 0, THROW, FIRE, 0, 0, TAKER, 0, 0, 0, THROW, THEFT, 0, 0,
+        Stair stair = ran(OPEN, ALL, 0, 0, THROW, FIRE, 0, 0, TAKER, 0, 0, 0, THROW, THEFT, 0, 0,
             TELL, 0, 0, 0, FINISH, 0, 0, 0, SET, 1, 9, 0, TELL, 1, 0, 0, CLOSE, 0, 0, 0, TELL, 0, 0, 0);
         dueFailure("its own TAKER takes it not", stair, THEFT);
         due("taken", stair.status(7), 1);
@@ -59,7 +59,7 @@ final class TrialTest extends TestBase {
         for (int way : ways) {
             for (int inTaker = 0; inTaker < 2; inTaker++) {
                 String what = "op " + way + (inTaker == 1 ? " in a TAKER" : " in a BODY");
-                TrialStair stair = ran(SET, 1, 2, 0, LOOP, 1, 0, 0, OPEN, ALL, 0, 0,
+                Stair stair = ran(SET, 1, 2, 0, LOOP, 1, 0, 0, OPEN, ALL, 0, 0,
                     inTaker == 1 ? THROW : TELL, 1, 0, 0, inTaker == 1 ? TAKER : CAST, 0, 0, 0, way, 1, 0, 0,
                     TELL, 0, 0, 0, FINISH, 0, 0, 0, TELL, 1, 0, 0, CLOSE, 0, 0, 0, TELL, 0, 0, 0, END, 0, 0, 0);
                 if (way == AGAIN) {
@@ -77,7 +77,7 @@ final class TrialTest extends TestBase {
         int[] ways = {BREAK, AGAIN, RETURN};
         for (int way : ways) {
             String what = "FINISH with op " + way;
-            TrialStair stair = ran(SET, 1, 5, 0, OPEN, 0, 0, 0, FINISH, 0, 0, 0, way, 1, 0, 0, TELL, 1, 0, 0,
+            Stair stair = ran(SET, 1, 5, 0, OPEN, 0, 0, 0, FINISH, 0, 0, 0, way, 1, 0, 0, TELL, 1, 0, 0,
                 CLOSE, 0, 0, 0, SET, 2, 8, 0, TELL, 2, 0, 0);
             dueOutputs(what + ": goes on behind a plain trial", stair, 8);
             dueEnd(what + ": plain", stair, PLAINLY, 0);
@@ -96,7 +96,7 @@ final class TrialTest extends TestBase {
         dueFailure("in place of a RETURN", ran(OPEN, ALL, 0, 0, RETURN, 0, 0, 0, TAKER, 0, 0, 0, FINISH, 0, 0, 0,
             THROW, 2, 0, 0), FLASH);
         dueFailure("in place of a failure", ran(OPEN, 0, 0, 0, THROW, 3, 0, 0, FINISH, 0, 0, 0, THROW, 2, 0, 0), FLASH);
-        TrialStair stair = ran(SET, 1, 3, 0, LOOP, 1, 0, 0, OPEN, 0, 0, 0, BREAK, 0, 0, 0, FINISH, 0, 0, 0,
+        Stair stair = ran(SET, 1, 3, 0, LOOP, 1, 0, 0, OPEN, 0, 0, 0, BREAK, 0, 0, 0, FINISH, 0, 0, 0,
             THROW, 2, 0, 0, CLOSE, 0, 0, 0, END, 0, 0, 0, TELL, 0, 0, 0);
         dueFailure("in place of a BREAK", stair, FLASH);
         due("its own TAKER takes it not", stair.status(7), 0);
@@ -106,14 +106,14 @@ final class TrialTest extends TestBase {
     }
 
     private static void testFinishHasItsOwnLoop() {
-        TrialStair stair = ran(SET, 1, 3, 0, OPEN, 0, 0, 0, THROW, THEFT, 0, 0, FINISH, 0, 0, 0, LOOP, 1, 0, 0,
+        Stair stair = ran(SET, 1, 3, 0, OPEN, 0, 0, 0, THROW, THEFT, 0, 0, FINISH, 0, 0, 0, LOOP, 1, 0, 0,
             TELL, 1, 0, 0, BREAK, 0, 0, 0, END, 0, 0, 0, SET, 1, 7, 0, TELL, 1, 0, 0, CLOSE, 0, 0, 0);
         dueOutputs("a BREAK of a LOOP in the finishing part", stair, 2, 7);
         dueFailure("a BREAK of a LOOP in the finishing part", stair, THEFT);
     }
 
     private static void testOrderOfFinishes() {
-        TrialStair stair = new TrialStair();
+        Stair stair = new Stair();
         add(stair, TELL, 0, 0, 0, ROUTINE, 0, 0, 0, OPEN, 0, 0, 0, ROUTINE, 1, 0, 1, FINISH, 0, 0, 0,
             OPEN, 0, 0, 0, FINISH, 0, 0, 0, CLOSE, 0, 0, 0, CLOSE, 0, 0, 0,
             ROUTINE, 0, 0, 0, OPEN, 0, 0, 0, THROW, 1, 0, 0, FINISH, 0, 0, 0);
@@ -127,7 +127,7 @@ final class TrialTest extends TestBase {
     }
 
     private static void testUnendedTrials() {
-        TrialStair stair = new TrialStair();
+        Stair stair = new Stair();
         add(stair, ROUTINE, 0, 0, 0, OPEN, ALL, 0, 0, OPEN, 0, 0, 0, THROW, 3, 0, 0, FINISH, 0, 0, 0, TELL, 0, 0, 0,
             ROUTINE, 0, 0, 0, TAKER, 0, 0, 0, CLOSE, 0, 0, 0, TELL, 0, 0, 0);
         due("steps", stair.run(0, 100), 4);
@@ -141,7 +141,7 @@ final class TrialTest extends TestBase {
     }
 
     private static void testEmptyParts() {
-        TrialStair stair = ran(OPEN, 0, 0, 0, FINISH, 0, 0, 0);
+        Stair stair = ran(OPEN, 0, 0, 0, FINISH, 0, 0, 0);
         dueFinished("empty finishing part", stair, 1);
         due("steps", stair.status(2), 1);
         again(stair, OPEN, ALL, 0, 0, THROW, 0, 0, 0, TAKER, 0, 0, 0);
@@ -152,7 +152,7 @@ final class TrialTest extends TestBase {
 
     /** A TAKER behind a FINISH belongs to no BLOCK. */
     private static void testFinishAheadOfTaker() {
-        TrialStair stair = ran(OPEN, ALL, 0, 0, THROW, 2, 0, 0, FINISH, 0, 0, 0, TAKER, 0, 0, 0, TELL, 0, 0, 0,
+        Stair stair = ran(OPEN, ALL, 0, 0, THROW, 2, 0, 0, FINISH, 0, 0, 0, TAKER, 0, 0, 0, TELL, 0, 0, 0,
             CLOSE, 0, 0, 0);
         dueFailure("not taken", stair, FLASH);
         dueOutputs("it is a step of the finishing part", stair, 0);
@@ -160,7 +160,7 @@ final class TrialTest extends TestBase {
     }
 
     private static void testManyFinishes() {
-        TrialStair stair = new TrialStair();
+        Stair stair = new Stair();
         add(stair, ROUTINE, 0, 0, 0, SET, 1, 2000, 0, LOOP, 1, 0, 0, OPEN, 0, 0, 0, FINISH, 0, 0, 0, CLOSE, 0, 0, 0);
         stair.run(0, 1000);
         due("finishing parts", stair.status(5), 499);
