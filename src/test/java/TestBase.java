@@ -22,12 +22,18 @@ abstract class TestBase {
 
     private static int wrong;
     private static int asked;
+    private static String words;
+
+    /** What a wrong answer breaks: words of the document. */
+    static void restOn(String wordsOfTheDocument) {
+        words = wordsOfTheDocument;
+    }
 
     static void due(String what, long got, long want) {
         asked++;
         if (got != want) {
             wrong++;
-            System.out.println(what + " answered " + got + ", due is " + want);
+            System.out.println(what + " answered " + got + ", due is " + want + (words == null ? "" : " (" + words + ")"));
         }
     }
 
