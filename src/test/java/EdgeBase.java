@@ -33,9 +33,9 @@ abstract class EdgeBase extends TestBase {
 
     private static String document = "";
 
-    /** The document's path is the second argument that .ci/run gives; without one no quote is checked. */
+    /** The document's path is the second argument that .ci/run gives; without the document no quote is checked. */
     static void begin(String[] args) throws IOException {
-        if (args.length > 1) {
+        if (args.length > 1 && Files.isReadable(Path.of(args[1]))) {
             document = Files.readString(Path.of(args[1])).replaceAll("\\s+", " ");
         }
     }
@@ -48,10 +48,14 @@ abstract class EdgeBase extends TestBase {
         }
     }
 
+    static int sortOf(String name) {
+        return SORTS.indexOf(name);
+    }
+
     private static int argument(String word) {
         int colon = word.indexOf(':');
         if (colon >= 0) {
-            return 8 * SORTS.indexOf(word.substring(0, colon)) + Integer.parseInt(word.substring(colon + 1));
+            return 8 * sortOf(word.substring(0, colon)) + Integer.parseInt(word.substring(colon + 1));
         }
         Integer kind = KINDS.get(word);
         return kind == null ? Integer.parseInt(word) : kind;

@@ -10,6 +10,7 @@ final class HouseEdgeTest extends EdgeBase {
         testChisel();
         testChars();
         testThreeBits();
+        testEachOfEight();
         testInts();
         testTell();
         testSet();
@@ -18,6 +19,7 @@ final class HouseEdgeTest extends EdgeBase {
         testSortAndShelf();
         testMake();
         testMakeTakesThePlace();
+        testMakeOnEachShelf();
         testMakeForSawsAlone();
         testMakeSize();
         testLook();
@@ -159,6 +161,93 @@ final class HouseEdgeTest extends EdgeBase {
         dueToCutTo(8, MAKE, 1, 8 * LONGS + 2, 4, 0);
         dueToCutTo(8, LENGTH, 1, 8 * LONGS + 2, 4, 0);
         dueToCutTo(8, ROUTINE, 1, 0, 5, 1);
+    }
+
+    /** NUMBERS 0 to 7 are 0, 10, 20 .. 70, and HANDS 0 to 7 have SAWS of these MARKS. */
+    private static Stair manyHands() {
+        StringBuilder text = new StringBuilder();
+        for (int i = 0; i < 8; i++) {
+            text.append("SET ").append(i).append(' ').append(10 * i).append("; THING ").append(i).append(" SAW ").append(i).append("; ");
+        }
+        return ran(text.toString());
+    }
+
+    /** After the step NUMBER 'changed' is this, and all other NUMBERS are as they were. */
+    private static void dueNumber(String step, int changed, long number) {
+        Stair stair = manyHands();
+        again(stair, step);
+        for (int i = 0; i < 8; i++) {
+            due(step + ": NUMBER " + i, stair.number(i), i == changed ? number : 10 * i);
+            due(step + ": HAND " + i, stair.mark(i), 10 * i);
+        }
+    }
+
+    /** After the step the MARK of what HAND 'changed' has is this, and all others are as they were. */
+    private static void dueMark(String step, int changed, long mark) {
+        Stair stair = manyHands();
+        again(stair, step);
+        for (int i = 0; i < 8; i++) {
+            due(step + ": HAND " + i, stair.mark(i), i == changed ? mark : 10 * i);
+            due(step + ": NUMBER " + i, stair.number(i), 10 * i);
+        }
+    }
+
+    private static void testEachOfEight() {
+        says("na is NUMBER (a & 7), ha the HAND (a & 7), and so on.");
+        for (int i = 0; i < 8; i++) {
+            int j = (i + 3) % 8;
+            int k = (i + 5) % 8;
+            String abc = " " + i + " " + j + " " + k;
+            dueNumber("SET" + abc, i, j);
+            dueNumber("ADD" + abc, i, 10 * j + 10 * k);
+            dueNumber("LESS" + abc, i, 10 * j - 10 * k);
+            dueNumber("TIMES" + abc, i, 100 * j * k);
+            if (k > 0) {
+                dueNumber("DIVIDE" + abc, i, j / k);
+                dueNumber("REST" + abc, i, 10 * (j % k));
+            }
+            dueNumber("MARK" + abc, j, 10 * i);
+            dueNumber("USE" + abc, k, 10 * i - 10 * j);
+            dueNumber("RING" + abc, k, 10 * i ^ 10 * j);
+            dueNumber("WEIGH" + abc, k, 30 * j + 10 * i);
+            dueNumber("CALL 1 " + i + "; MARK_OF 0; RETURN " + j, i, 10 * j);
+            dueNumber("MAKE LONGS:" + k + " " + j + "; LENGTH LONGS:" + k + " " + i, i, 10 * j % 64);
+            dueMark("MARK_PUT" + abc, i, 10 * j);
+            dueMark("THING " + i + " HAMMER " + k, i, 10 * k);
+            dueMark("GIVE" + abc, j, 10 * i);
+            dueMark("CAST " + i + " SAW " + k, k, 10 * i);
+            testPlacesOfEight(i, j, k);
+            dueOutputs("TELL" + abc, tellingRun("TELL" + abc), 10 * i);
+            dueEnd("RETURN" + abc, tellingRun("RETURN" + abc), BY_RETURN, 10 * i);
+            due("IF" + abc, tellingRun("IF" + abc + "; TELL 1; END").status(4), i < j ? 1 : 0);
+            due("LOOP" + abc, tellingRun("LOOP" + abc + "; BREAK; END").number(i), Math.max(10 * i - 1, 0));
+        }
+    }
+
+    private static Stair tellingRun(String text) {
+        Stair stair = manyHands();
+        again(stair, text);
+        return stair;
+    }
+
+    private static void testPlacesOfEight(int i, int j, int k) {
+        Stair stair = manyHands();
+        again(stair, "SET 7 7; MAKE LONGS:" + i + " 7; MAKE THINGS:" + i + " 7; GRID 7 7; SET 0 5; SET 1 1; SET 2 2; SET 3 3; SET 4 4; SET 5 6; SET 6 0");
+        int[] numbers = {5, 1, 2, 3, 4, 6, 0, 7};
+        if (i == 7 || j == 7) {
+            // NUMBER 7 tells how many places there are, so it is no place itself.
+            return;
+        }
+        again(stair, "PUT LONGS:" + i + " " + j + " " + k + "; PUT THINGS:" + i + " " + j + " " + k + "; GRID_PUT " + i + " " + j + " " + k);
+        due("PUT at NUMBER " + j + " of NUMBER " + k, stair.value(LONGS, i, numbers[j]), numbers[k]);
+        due("PUT at NUMBER " + j + " of HAND " + k, stair.value(THINGS, i, numbers[j]), SAW);
+        due("GRID PUT at NUMBERS " + i + " and " + j + " of NUMBER " + k, stair.grid(numbers[i], numbers[j]), numbers[k]);
+        again(stair, "LOOK THINGS:" + i + " " + j + " " + i);
+        due("LOOK from HAND " + k + " into HAND " + i, stair.mark(i), 10 * k);
+        again(stair, "SET " + k + " -1; LOOK LONGS:" + i + " " + j + " " + k);
+        due("LOOK into NUMBER " + k, stair.number(k), numbers[k]);
+        again(stair, "SET " + k + " -1; GRID_LOOK " + i + " " + j + " " + k);
+        due("GRID LOOK into NUMBER " + k, stair.number(k), numbers[k]);
     }
 
     private static final String[] OF_INT_3 = {"3", "4294967299", "-4294967293", "9223372032559808515"};
@@ -306,6 +395,12 @@ final class HouseEdgeTest extends EdgeBase {
             String given = "SET 1 3; SET 2 2; SET 3 4; THING 1 SAW; MAKE " + row + " 1; PUT " + row + " 2 1; ";
             int empty = sort == THINGS ? -1 : 0;
             due("as long", ran(given + "MAKE " + row + " 1").value(sort, 0, 2), empty);
+            Stair full = filled(row);
+            due("full", full.value(sort, 0, 0) * full.value(sort, 0, 62), 1);
+            again(full, "MAKE " + row + " 6");
+            for (int i = 0; i < 63; i++) {
+                due("a full one of 63 places: place " + i, full.value(sort, 0, i), empty);
+            }
             Stair stair = ran(given + "MAKE " + row + " 2");
             due("shorter", stair.size(sort, 0), 2);
             due("shorter: the place is gone", stair.value(sort, 0, 2), 0);
@@ -319,6 +414,29 @@ final class HouseEdgeTest extends EdgeBase {
             again(stair, "MAKE " + row + " 0");
             due("of no places", stair.size(sort, 0), 0);
         }
+    }
+
+    private static void testMakeOnEachShelf() {
+        says("the sort is a / 8 & 7 (a >> 3 & 7), the SHELF a & 7");
+        for (int sort = 0; sort < 8; sort++) {
+            Stair stair = ran("SET 1 1; SET 2 2; SET 3 3; SET 4 4; SET 5 5; SET 6 6; SET 7 7; THING 1 SAW");
+            int[] sizes = new int[8];
+            for (int i = 0; i < 24; i++) {
+                int shelf = i % 8;
+                int number = (shelf + 3 + i / 8) % 8;
+                String row = Integer.toString(8 * sort + shelf);
+                again(stair, "MAKE " + row + " " + number + "; LENGTH " + row + " 0; OPEN ALL; PUT " + row + " 0 1; TAKER; CLOSE; SET 0 0");
+                sizes[shelf] = number;
+                for (int other = 0; other < 8; other++) {
+                    due("ROW " + sort + ", " + other + " after MAKE on " + shelf, stair.size(sort, other), i < other ? -1 : sizes[other]);
+                }
+            }
+        }
+    }
+
+    /** A ROW of 63 places that has the number 1, or a SAW, in each; NUMBER 6 is 63. */
+    private static Stair filled(String row) {
+        return ran("SET 1 1; THING 1 SAW; SET 6 63; SET 2 63; MAKE " + row + " 6; LOOP 2; PUT " + row + " 2 1; END");
     }
 
     private static void testMakeForSawsAlone() {
@@ -388,13 +506,8 @@ final class HouseEdgeTest extends EdgeBase {
 
     private static long keptAs(String sort, long x) {
         Stair stair = ran("SET 1 1; MAKE " + sort + ":0 1; LONG 2 " + x + "; PUT " + sort + ":0 0 2; LOOK " + sort + ":0 0 3");
-        due("LOOK being as value()", stair.number(3), stair.value(argument(sort), 0, 0));
+        due("LOOK being as value()", stair.number(3), stair.value(sortOf(sort), 0, 0));
         return stair.number(3);
-    }
-
-    private static int argument(String sort) {
-        return sort.equals("FLOATS") ? FLOATS : sort.equals("DOUBLES") ? DOUBLES : sort.equals("BYTES") ? BYTES
-            : sort.equals("CHARS") ? CHARS : sort.equals("SHORTS") ? SHORTS : sort.equals("INTS") ? INTS : LONGS;
     }
 
     private static void testLookAtFloats() {

@@ -118,6 +118,17 @@ final class PartEdgeTest extends EdgeBase {
         stair.step(ROUTINE, 0, 0, 0);
         stair.step(TELL, 1, 0, 0);
         due("routine 3, as long as it was", stair.run(3, 9), 1);
+        Stair many = new Stair();
+        for (int i = 0; i < 120; i++) {
+            add(many, "MARK_OF 0; SET 1 " + i + "; MARK_OF 0");
+        }
+        due("routines", many.status(1), 240);
+        due("routine 238", many.run(238, 9), 1);
+        due("routine 238: the last but one", many.number(1), 119);
+        due("routine 239, the last", many.run(239, 9), 0);
+        due("routine 240", many.run(240, 9), -1);
+        due("routine 160", many.run(160, 9), 1);
+        due("routine 160: the 81st SET", many.number(1), 80);
         says("Steps before the first MARK belong to none.");
         Stair before = written("SET 1 5; OPEN ALL; LOOP 1; MARK_OF 0; TAKER; TELL 1; END");
         due("steps", before.status(0), 7);
@@ -155,6 +166,8 @@ final class PartEdgeTest extends EdgeBase {
     private static void testFinish() {
         says("a FINISH, if it is of an OPEN that has no FINISH");
         dueFinished("a second one", dueTrace("OPEN; FINISH; TELL 1; FINISH; TELL 2; CLOSE", 4, 1, 2), 1);
+        dueToFail("OPEN; THROW; FINISH; TELL 1; FINISH; TELL 2; CLOSE", ALARM, 5, 1, 2);
+        dueToFail("OPEN; THROW; FINISH; FINISH; TELL 2; FINISH; CLOSE", ALARM, 5, 2);
         dueFinished("in a LOOP", dueTrace("OPEN; LOOP 1; FINISH; TELL 2; END; CLOSE", 5, 2));
         dueFinished("in an IF", dueTrace("OPEN; IF 1 2; FINISH; TELL 2; END; CLOSE", 4, 2));
         dueFinished("behind a CLOSE", dueTrace("OPEN; CLOSE; FINISH; TELL 2", 3, 2));

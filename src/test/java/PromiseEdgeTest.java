@@ -22,6 +22,7 @@ final class PromiseEdgeTest extends EdgeBase {
         testDepth();
         testStatus();
         testStatusCounts();
+        testManyRuns();
         testNumber();
         testHand();
         testMark();
@@ -268,18 +269,21 @@ final class PromiseEdgeTest extends EdgeBase {
         dueEnd("one that was TAKEN is none of the run", stair, PLAINLY, 0);
         again(stair, "OPEN ALL; THROW FIRE; TAKER; INSTEAD ALARM; FINISH; TELL 1; TELL 1", 4);
         dueEnd("SPENT", stair, SPENT, 0);
-        again(stair, "SET 1 150; OPEN ALL; THROW FIRE; TAKER; CALL 1 0; MARK_OF 0; LESS 1 1 2; OPEN ALL; INSTEAD FLASH; TAKER; IF 3 1; SET 2 1; "
-            + "CALL 1 0; END; INSTEAD THEFT; CLOSE", 1000);
-        due("many: end", stair.end(), TOO_DEEP);
-        again(stair, "SET 2 1; SET 1 60; OPEN ALL; THROW FIRE; TAKER; CALL 1 0; MARK_OF 0; LESS 1 1 2; OPEN ALL; INSTEAD FLASH; TAKER; IF 3 1; "
-            + "CALL 1 0; END; INSTEAD THEFT; CLOSE", 1000);
-        int causes = stair.status(6);
-        due("many: CAUSES", causes, 61);
-        due("many: kind", stair.kind(), THEFT);
-        due("many: the first", stair.cause(0), FLASH);
-        due("many: the last", stair.cause(causes - 1), FIRE);
-        due("many: the last but one", stair.cause(causes - 2), FLASH);
-        due("many: behind the last", stair.cause(causes), -1);
+        testManyCauses();
+    }
+
+    /** 22 routines of 8 trials each, one inside the other: each trial takes the failure of the one in it. */
+    private static void testManyCauses() {
+        Stair stair = ran("SET 1 22; SET 2 1");
+        again(stair, "OPEN ALL; ".repeat(8) + "LESS 1 1 2; DIVIDE 3 3 1; CALL 0 0; " + "TAKER; INSTEAD FLASH; CLOSE; ".repeat(7)
+            + "TAKER; INSTEAD FIRE");
+        due("many: CAUSES", stair.status(6), 176);
+        due("many: kind", stair.kind(), FIRE);
+        for (int i = 0; i < 175; i++) {
+            due("many: cause(" + i + ")", stair.cause(i), i % 8 == 7 ? FIRE : FLASH);
+        }
+        due("many: the last", stair.cause(175), DIVISION);
+        due("many: behind the last", stair.cause(176), -1);
     }
 
     private static void testOut() {
@@ -384,10 +388,25 @@ final class PromiseEdgeTest extends EdgeBase {
         dueStatus("SPENT", stair, 15, 2, 10, 3, 1, 0, 0, 0);
         again(stair, "OPEN ALL; THROW; TAKER; FINISH; CLOSE; CALL 0 0");
         dueStatus("TOO DEEP", stair, 7, 1, 608, 4, 0, 199, 0, 199);
+        for (int i = 0; i < 300; i++) {
+            stair.run(0, 0);
+        }
+        dueStatus("refused again and again", stair, 7, 1, 608, 4, 0, 199, 0, 199);
         stair.wipe();
         dueStatus("wiped", stair, 0, 0, 608, 4, 0, 199, 0, 199);
         again(stair, "SET 1 300; LOOP 1; TELL 1; TELL 1; END");
         dueStatus("outputs that are kept", stair, 6, 1, 1508, 5, 500, 0, 0, 0);
+    }
+
+    private static void testManyRuns() {
+        says("2: steps that all runs took, 3: runs");
+        Stair stair = written("MARK_OF 0; TELL 1; MARK_OF 0");
+        for (int i = 1; i <= 160; i++) {
+            due("run(0, 1)", stair.run(0, 1), 1);
+            due("run(1, 1)", stair.run(1, 1), 0);
+        }
+        due("steps", stair.status(2), 160);
+        due("runs", stair.status(3), 320);
     }
 
     private static void testNumber() {
